@@ -698,12 +698,15 @@ public final class BlownByAll {
 
     /**
      * BEST PHASES of a PIPE. All are tried in order, but for those that can be no better than what was
-     * found: more AIR never SAGS more, so it can't get better than if all others gave at all TIMES.
+     * found. Less AIR never SAGS less, and what one's breaths add to SAGS is never less for the breaths of
+     * others (AIR and STORES only add up): so each that is not settled adds what it would add alone, or more.
      */
     private static final class PhasePlan {
         private final People people;
         private final Mass mass;
         private final int[] sitters, tried, best;
+        /** What all from one on add at least. */
+        private final int[] toCome;
         private int pipe, sitting, least;
 
         PhasePlan(People people, Mass mass) {
@@ -712,6 +715,7 @@ public final class BlownByAll {
             sitters = new int[MOST_PHASED];
             tried = new int[MOST_PHASED];
             best = new int[MOST_PHASED];
+            toCome = new int[MOST_PHASED + 1];
         }
 
         /** Whether there are BEST PHASES (not if too many sit at the PIPE). */
@@ -721,6 +725,15 @@ public final class BlownByAll {
                 return false;
             }
             pipe = atPipe;
+            list(who);
+            mass.fill(people.forceOf(who));
+            foresee();
+            least = Integer.MAX_VALUE;
+            tryFrom(this, 0);
+            return true;
+        }
+
+        private void list(int who) {
             sitting = 0;
             for (int i = 0; i < people.count && sitting < MOST_PHASED; i++) {
                 if ((who >> i & 1) == 1) {
@@ -728,31 +741,56 @@ public final class BlownByAll {
                     sitting++;
                 }
             }
-            least = Integer.MAX_VALUE;
-            mass.fill(people.forceOf(who));
-            tryFrom(this, 0);
-            return true;
+        }
+
+        private void foresee() {
+            int unbreathed = mass.blow(pipe);
+            toCome[sitting] = 0;
+            for (int one = sitting - 1; one >= 0; one--) {
+                toCome[one] = toCome[one + 1] + leastAlone(sitters[one]) - unbreathed;
+            }
+        }
+
+        /** SAGS together if just this PERSON breathes in, by the best PHASE. */
+        private int leastAlone(int person) {
+            int found = Integer.MAX_VALUE;
+            for (int s = 0; s <= lastPhase(person); s++) {
+                mass.addAtBreaths(person, s, -breath(person));
+                found = Math.min(found, mass.blow(pipe));
+                mass.addAtBreaths(person, s, breath(person));
+            }
+            return found;
+        }
+
+        /** To one that is BRIBED all PHASES are alike, and 0 is the first. */
+        private int lastPhase(int person) {
+            return people.bribed[person] ? 0 : people.lungs[person];
+        }
+
+        /** The AIR that is missing when it breathes in. */
+        private int breath(int person) {
+            return people.bribed[person] ? 0 : people.force[person];
         }
 
         /** The PHASES of those ahead of one are settled, in the wind too; those behind it GIVE at all TIMES. */
         private static void tryFrom(PhasePlan plan, int one) {
-            int atLeast = plan.mass.blow(plan.pipe);
-            if (atLeast >= plan.least) {
+            if (one > plan.sitting || one > MOST_PHASED) {
                 return;
             }
-            if (one >= plan.sitting || one >= MOST_PHASED) {
-                plan.settle(atLeast);
+            int together = plan.mass.blow(plan.pipe);
+            if (together + plan.toCome[one] >= plan.least) {
+                return;
+            }
+            if (one == plan.sitting) {
+                plan.settle(together);
                 return;
             }
             int person = plan.sitters[one];
-            // To one that is BRIBED all PHASES are alike, and 0 is the first.
-            int last = plan.people.bribed[person] ? 0 : plan.people.lungs[person];
-            int breath = plan.people.bribed[person] ? 0 : plan.people.force[person];
-            for (int s = 0; s <= last; s++) {
+            for (int s = 0; s <= plan.lastPhase(person); s++) {
                 plan.tried[one] = s;
-                plan.mass.addAtBreaths(person, s, -breath);
+                plan.mass.addAtBreaths(person, s, -plan.breath(person));
                 tryFrom(plan, one + 1);
-                plan.mass.addAtBreaths(person, s, breath);
+                plan.mass.addAtBreaths(person, s, plan.breath(person));
             }
         }
 
