@@ -313,6 +313,20 @@ public final class MassEdgesTest {
         Edges.due("first()", Edges.made("O11M110M910/10103000").first(), 21);
     }
 
+    private static void firstOfAllPairsOfBeats() {
+        for (int one = 0; one < 24; one++) {
+            for (int other = 0; other < 24; other++) {
+                char[] hymn = "00".repeat(24).toCharArray();
+                hymn[2 * one]++;
+                hymn[2 * other + 1] += 4;
+                BlownByAll x = Edges.made("O111111/" + new String(hymn));
+                int due = one <= other ? 10 * one : 10 * other + 5;
+                Edges.due("first() by " + one + " and " + other, x.first(), due);
+                Edges.due("never() by " + one + " and " + other, x.never(), due);
+            }
+        }
+    }
+
     private static void nothingSags() {
         BlownByAll[] still = {new BlownByAll(), Edges.made("O9"), Edges.made("O9/00"), Edges.made("O3M930/10"),
             Edges.made("O1M110/1000")};
@@ -371,6 +385,7 @@ public final class MassEdgesTest {
     private static void totalEdges() {
         Edges.edge("19 total", "all SAGS of all PIPES at all BEATS", MassEdgesTest::leastAndMostTotal);
         Edges.edge("20 first", "The first BEAT at which something SAGS, of it the first PIPE", MassEdgesTest::firstBeatThenPipe);
+        Edges.edge("20 first", "10 times the BEAT and the PIPE", MassEdgesTest::firstOfAllPairsOfBeats);
         Edges.edge("21 worst", "NONE: none SAGS", MassEdgesTest::nothingSags);
         Edges.edge("2 WORST", "with most SAGS together", MassEdgesTest::mostTogether);
         Edges.edge("2 WORST", "of like ones the least", MassEdgesTest::ofLikeOnesTheLeast);

@@ -574,12 +574,14 @@ public final class ModelTest {
         }
     }
 
+    /** Two organs, one made anew after the other: an object is used for no more than 512 calls. */
     private static void run(Random r, int mostPeople, int mostLungs, int mostBeats) {
         BlownByAll x = new BlownByAll();
         Model m = new Model();
-        for (int k = 0; k < 4; k++) {
+        long before = calls;
+        for (int k = 0; k < 2; k++) {
             String text = drawn(r, mostPeople, mostLungs, mostBeats);
-            for (int i = 0; i < 3; i++) {
+            for (int i = 0; i < 2; i++) {
                 writeSome(x, m, r, spoilt(r, text));
                 if (r.nextInt(3) == 0) {
                     due("organ()", x.organ(), m.organ(), m);
@@ -588,23 +590,30 @@ public final class ModelTest {
             }
             writeSome(x, m, r, text);
             due("organ()", x.organ(), m.organ(), m);
-            for (int i = 0; i < 12; i++) {
-                tell(x, m, r);
+            tellAndAsk(x, m, r);
+        }
+        if (calls - before > 512) {
+            due("calls of one object", calls - before, 512, m);
+        }
+    }
+
+    private static void tellAndAsk(BlownByAll x, Model m, Random r) {
+        for (int i = 0; i < 8; i++) {
+            tell(x, m, r);
+            if (i % 4 == 3) {
                 askState(x, m, r);
-                if (i % 3 == 2) {
-                    askMass(x, m, r);
-                    askChances(x, m, r);
-                }
+                askMass(x, m, r);
+                askChances(x, m, r);
             }
-            askPlans(x, m, r);
-            if (m.people.size() <= 4 || m.people.size() > 6 || r.nextInt(8) == 0) {
-                askSeats(x, m);
-            }
+        }
+        askPlans(x, m, r);
+        if (m.people.size() <= 4 || m.people.size() > 6 || r.nextInt(8) == 0) {
+            askSeats(x, m);
         }
     }
 
     public static void main(String[] args) {
-        int rounds = args.length > 0 ? Integer.parseInt(args[0]) : 60;
+        int rounds = args.length > 0 ? Integer.parseInt(args[0]) : 150;
         Random r = new Random(args.length > 1 ? Long.parseLong(args[1]) : 20261118);
         for (int i = 0; i < rounds; i++) {
             run(r, 4, 4, 24);

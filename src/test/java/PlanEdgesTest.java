@@ -1,3 +1,5 @@
+import java.util.Arrays;
+
 /** Edges of plans: promises 22 to 29 (bestLate up to never), and how many PEOPLE they are for. */
 public final class PlanEdgesTest {
     private static final int[] NO_PIPE_OF_TWO = {-1, 2, 6, Edges.LEAST, Edges.MOST};
@@ -144,6 +146,10 @@ public final class PlanEdgesTest {
         hymn = notes(24, 0, 1, 2, 3, 4, 5, 6, 7, 8, 10, 11, 12, 13, 14, 15, 16, 17, 18, 20, 21, 22, 23);
         phasesAt(Edges.made("O1M910" + hymn), 0, 0, 0);
         phasesAt(Edges.made("O1M110" + notes(2, 0, 1)), 0, 1, 0);
+        // It SAGS though nobody breathed in, and a later PHASE still is the better one.
+        phasesAt(Edges.made("O9M110" + notes(2, 1)), 0, 8, 1);
+        phasesAt(Edges.made("O9M110M110M110M110" + notes(2, 1)), 0, 5, 1, 1, 1, 1);
+        phasesAt(Edges.made("O9M910M910M910M910" + notes(10, 9)), 0, 5, 1, 1, 1, 1);
     }
 
     private static void likePhasesTheFirst() {
@@ -196,6 +202,20 @@ public final class PlanEdgesTest {
         phasesAt(x, 1, 2, 0);
         Edges.due("phaseAt(1, 1)", x.phaseAt(1, 1), Edges.NONE);
         Edges.due("phaseAt of nobody", Edges.made("O1").phaseAt(0, 0), Edges.NONE);
+    }
+
+    private static void onePipeAfterAnother() {
+        // At PIPE 0 each breath of four is missed; one, two and three sit at the others, where PHASE 1 is best. What
+        // was found for one PIPE is nothing to the next.
+        BlownByAll x = Edges.made("O9123M130M120M120M120M111M112M112M113M113M113/10717171");
+        for (int pipe = 1; pipe <= 3; pipe++) {
+            phasesAt(x, 0, 18, 0, 0, 0, 0);
+            int[] due = new int[pipe];
+            Arrays.fill(due, 1);
+            phasesAt(x, pipe, pipe, due);
+        }
+        phasesAt(x, 2, 2, 1, 1);
+        phasesAt(x, 1, 1, 1);
     }
 
     private static void phasesUnknown() {
@@ -464,6 +484,7 @@ public final class PlanEdgesTest {
         Edges.edge("2 BEST PHASES", "of like ones the first", PlanEdgesTest::phasesOfTheBribed);
         Edges.edge("23 phases", "SAGS of a PIPE together by BEST PHASES", PlanEdgesTest::phasesAreNotTold);
         Edges.edge("24 phaseAt", "NONE: there is none such", PlanEdgesTest::ithOfThoseWhoSitThere);
+        Edges.edge("24 phaseAt", "by BEST PHASES", PlanEdgesTest::onePipeAfterAnother);
         Edges.edge("24 phaseAt", "UNKNOWN; STATE.", PlanEdgesTest::phasesUnknown);
     }
 
