@@ -574,8 +574,13 @@ public final class BlownByAll {
             return person >= 0 && person < count;
         }
 
+        /** From one breath to the next; 1 at least, whatever the lungs, for it divides and steps. */
+        int turnOf(int person) {
+            return Math.max(lungs[person], 0) + 1;
+        }
+
         int givenAt(int person, int time) {
-            boolean breathesIn = (time + phase[person]) % (lungs[person] + 1) == lungs[person];
+            boolean breathesIn = (time + phase[person]) % turnOf(person) == lungs[person];
             return breathesIn && !bribed[person] ? 0 : force[person];
         }
 
@@ -647,7 +652,7 @@ public final class BlownByAll {
 
         /** Adds to the wind at those BEATS at which a PERSON would breathe in by a PHASE s. */
         void addAtBreaths(int person, int s, int amount) {
-            int turn = people.lungs[person] + 1;
+            int turn = people.turnOf(person);
             int start = Math.floorMod(people.lungs[person] - s - people.late, turn);
             for (int j = start; j < pipes.beats; j += turn) {
                 wind[j] += amount;

@@ -21,6 +21,14 @@ public final class StateEdgesTest {
 
     // ---- a new object, and how long it is used
 
+    private static void refusalsAndNone() {
+        Edges.due("UNKNOWN", BlownByAll.UNKNOWN, -1);
+        Edges.due("OUTSIDE", BlownByAll.OUTSIDE, -2);
+        Edges.due("STATE", BlownByAll.STATE, -3);
+        Edges.due("FULL", BlownByAll.FULL, -4);
+        Edges.due("NONE", BlownByAll.NONE, -9);
+    }
+
     private static void onePipeNobody() {
         BlownByAll x = new BlownByAll();
         counts(x, 0, 1, 0, 0, 0, 0, 0);
@@ -444,6 +452,7 @@ public final class StateEdgesTest {
     }
 
     private static void organEdges() {
+        Edges.edge("Terms", "NONE is -9", StateEdgesTest::refusalsAndNone);
         Edges.edge("1 A new object", "One PIPE, nobody.", StateEdgesTest::onePipeNobody);
         Edges.edge("1 ORGAN", "At first THE ORGAN is O1.", StateEdgesTest::asIfMadeOfO1);
         Edges.edge("1 A new object", "One PIPE, nobody.", StateEdgesTest::eachObjectByItself);
