@@ -232,6 +232,19 @@ public final class SneezeEdgesTest {
         blame(Edges.made("O1M910/00"), 0, 0, 0, Edges.STATE, Edges.STATE);
     }
 
+    private static void blameOfOneThatBreathesIn() {
+        // It can't have sneezed, however many others do: at x 10 all of them, and the PIPE still gets less.
+        BlownByAll x = Edges.made("O1M110M910/1010");
+        BlownByAll alone = Edges.made("O1M110/1010");
+        for (int tenths = 1; tenths <= 10; tenths++) {
+            blame(x, 0, 1, tenths, 0, 1);
+            blame(x, 1, 1, tenths, 1, 1);
+            blame(alone, 0, 1, tenths, 0, 1);
+        }
+        blame(x, 0, 1, 0, Edges.STATE, Edges.STATE);
+        blame(alone, 0, 1, 0, 0, 1);
+    }
+
     private static void blameByItsOwnPipe() {
         BlownByAll x = Edges.made("O13M910M931M911/30");
         blame(x, 0, 0, 5, 1, 1);
@@ -277,6 +290,7 @@ public final class SneezeEdgesTest {
         Edges.edge("3 BLAME", "the chance that a PERSON sneezed, if the PIPE at which it sits gets less",
                 SneezeEdgesTest::ifThePipeGetsLess);
         Edges.edge("31 blame", "STATE: it can not be that its PIPE gets less.", SneezeEdgesTest::itCanNotBeThatItGetsLess);
+        Edges.edge("3 BLAME", "the chance that a PERSON sneezed", SneezeEdgesTest::blameOfOneThatBreathesIn);
         Edges.edge("3 BLAME", "the PIPE at which it sits", SneezeEdgesTest::blameByItsOwnPipe);
         Edges.edge("31 blame", "UNKNOWN: person, beat; OUTSIDE: x; STATE", SneezeEdgesTest::blameUnknown);
         Edges.finish();
