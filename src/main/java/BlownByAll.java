@@ -12,6 +12,8 @@ public final class BlownByAll {
     private static final int BYTES_AT_ONCE = 8, TENTHS = 10, LAST_LATE_TRIED = 11;
     private static final int MOST_PHASED = 4, MOST_SEATED = 6, SLOTS = 2;
     private static final int NOBODY = -1;
+    /** Above every number that a plan can have. */
+    private static final int NO_PLAN_YET = 2147483647;
 
     private final Script script;
     private final Pipes pipes;
@@ -733,7 +735,7 @@ public final class BlownByAll {
             list(who);
             mass.fill(people.forceOf(who));
             foresee();
-            least = Integer.MAX_VALUE;
+            least = NO_PLAN_YET;
             tryFrom(this, 0);
             return true;
         }
@@ -758,7 +760,7 @@ public final class BlownByAll {
 
         /** SAGS together if just this PERSON breathes in, by the best PHASE. */
         private int leastAlone(int person) {
-            int found = Integer.MAX_VALUE;
+            int found = NO_PLAN_YET;
             for (int s = 0; s <= lastPhase(person); s++) {
                 mass.addAtBreaths(person, s, -breath(person));
                 found = Math.min(found, mass.blow(pipe));
@@ -872,7 +874,7 @@ public final class BlownByAll {
         }
 
         private int bestWith(int pipe, int who) {
-            int least = Integer.MAX_VALUE;
+            int least = NO_PLAN_YET;
             for (int here = 0; here <= who; here++) {
                 if ((here & ~who) == 0) {
                     least = Math.min(least, price[pipe * SETS + here] + best[who & ~here]);

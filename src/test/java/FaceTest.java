@@ -7,6 +7,7 @@ import java.nio.file.Files;
 import java.nio.file.Path;
 import java.util.Set;
 import java.util.TreeSet;
+import java.util.regex.Matcher;
 import java.util.regex.Pattern;
 
 /** The public face of the document, and those rules of LANGUAGE.md that can be looked up in class and source. */
@@ -19,6 +20,11 @@ public final class FaceTest {
         "int phaseAt(int, int)", "int seats()", "int seatAt(int)", "int bribes()", "int needed(int)", "int never()",
         "long steady(int, int, int, boolean)", "long blame(int, int, int, boolean)", "int keep(int)", "int again(int)",
         "int count(int)"};
+    private static final String GROUPS = "---- the organ write wipe fault organ drinks sounds person"
+            + " ---- told seat phase bribe grow store late ---- a mass gives air stored sags total first worst"
+            + " ---- plans bestLate phases phaseAt seats seatAt bribes needed never ---- sneezes steady blame"
+            + " ---- slots keep again count";
+    private static final Set<String> LISTED = Set.of("Integer.bitCount(", "Math.max(", "Math.min(", "Math.floorMod(");
     private static int wrong = 0;
 
     private static void check(boolean holds, String what) {
@@ -49,7 +55,9 @@ public final class FaceTest {
         check(open.equals(new TreeSet<>(Set.of(METHODS))), "the methods of the document: " + open);
         for (Method m : BlownByAll.class.getDeclaredMethods()) {
             check(!Modifier.isPrivate(m.getModifiers()) || !names.contains(m.getName()), "a name of its own: " + m);
+            check(m.getParameterCount() <= 7, "seven parameters: " + m);
         }
+        check(BlownByAll.class.getDeclaredClasses().length < 12, "some twelve classes");
         Constructor<?>[] made = BlownByAll.class.getDeclaredConstructors();
         check(made.length == 1 && made[0].getParameterCount() == 0 && Modifier.isPublic(made[0].getModifiers()), "one constructor");
         check(Modifier.isFinal(BlownByAll.class.getModifiers()), "a final class");
@@ -62,6 +70,11 @@ public final class FaceTest {
         check(constants.equals(Set.of("UNKNOWN", "OUTSIDE", "STATE", "FULL", "NONE")), "the constants: " + constants);
         for (Class<?> inside : BlownByAll.class.getDeclaredClasses()) {
             check(Modifier.isStatic(inside.getModifiers()), "static: " + inside);
+            check(inside.getDeclaredClasses().length == 0, "no class inside " + inside);
+            for (Method m : inside.getDeclaredMethods()) {
+                check(!names.contains(m.getName()), "a name of its own: " + m);
+                check(m.getParameterCount() <= 7, "seven parameters: " + m);
+            }
             fieldsOf(inside);
         }
         fieldsOf(BlownByAll.class);
@@ -80,9 +93,41 @@ public final class FaceTest {
         check(held <= 20, "some twenty fields: " + one + " has " + held);
     }
 
+    /** The calls stand as the document has them, each group behind the words that the interface says ahead of it. */
+    private static void order(String source) {
+        Matcher said = Pattern.compile("\n    // (---- .*)|\n    public (?:int|long) (\\w+)\\(").matcher(source);
+        StringBuilder all = new StringBuilder();
+        while (said.find()) {
+            all.append(said.group(1) == null ? said.group(2) : said.group(1)).append(' ');
+        }
+        check(all.toString().trim().equals(GROUPS), "the groups of the document: " + all);
+    }
+
+    /** Of the library just what LANGUAGE.md lists: functions, and no constants. */
+    private static void library(String bare) {
+        Matcher used = Pattern.compile("\\b(Integer|Long|Math|Arrays|String|List|ArrayList)\\b(\\.\\w+\\(?)?").matcher(bare);
+        while (used.find()) {
+            check(LISTED.contains(used.group()), "listed: " + used.group());
+        }
+    }
+
+    /** From a method's first line to its brace, which stands as far in as the line itself. */
+    private static void lengths(String source) {
+        Matcher method = Pattern.compile("(?s)\n( {4}| {8})(?! )[^\n;=]*\\) \\{\n(.*?)\n\\1\\}").matcher(source);
+        int seen = 0;
+        while (method.find()) {
+            seen++;
+            check(method.group(2).lines().count() <= 60, "short: " + method.group().lines().skip(1).findFirst());
+        }
+        check(seen > METHODS.length, "methods were found: " + seen);
+    }
+
     private static void source() throws IOException {
         String source = Files.readString(Path.of("src/main/java/BlownByAll.java"));
         String bare = source.replaceAll("(?s)/\\*.*?\\*/", "").replaceAll("//[^\n]*", "");
+        order(source);
+        library(bare);
+        lengths(source);
         String[] banned = {"throw", "throws", "try", "catch", "finally", "synchronized", "assert", "import", "package",
             "protected", "native", "volatile", "System", "Exact", "Random", "Thread"};
         for (String word : banned) {
